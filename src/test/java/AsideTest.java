@@ -39,6 +39,11 @@ public final class AsideTest {
         Calls.due("one is not enough", x.complete(1), -2);
         Calls.row(x, Calls.code("aa"), Calls.code("a"));
         Calls.due("no rules", new StrikeWhatCancels().complete(12), 0);
+        // ddddd: aaadd, from the left badd, and ddaaa, from the left ddba.
+        x = Calls.with("ddd>aaa;aa>b");
+        Calls.due("from the left", x.complete(1), -2);
+        Calls.row(x, Calls.code("ddba"), Calls.code("badd"));
+        Calls.due("nothing unlike", Calls.with("aa>b;ba>ab;bb>").complete(0), 0);
     }
 
     private static void completeTooLong() {
@@ -84,6 +89,9 @@ public final class AsideTest {
         Calls.due("for sure", x.same(Calls.code("aabaa"), Calls.code("bb")), 1);
         Calls.row(x, Calls.code("bb"), Calls.code("bb"));
         Calls.due("no saying", x.same(9, 1), -1);
+        // From the right both would end in bb.
+        Calls.due("from the left", x.same(Calls.code("aabaabaa"), Calls.code("aabaabaa")), 1);
+        Calls.row(x, Calls.code("bbbaa"), Calls.code("bbbaa"));
     }
 
     private static void between() {
@@ -135,6 +143,7 @@ public final class AsideTest {
         Calls.row(x, Calls.code("c"), Calls.code("cc"), Calls.code("ccc"), Calls.code("cccc"),
             Calls.code("ccccc"), Calls.code("cccccc"), Calls.code("ccccccc"));
         Calls.due("eight, behind 3280", x.between(0, Calls.code("cccccccc"), 8), -3);
+        Calls.due("eight, next to one of the first", x.between(0, Calls.code("aaaaaaaa"), 8), -3);
         Calls.due("not there, behind 3280", x.between(0, Calls.code("d"), 7), -3);
         Calls.due("not there, behind 1093", x.between(0, Calls.code("d"), 6), -2);
         Calls.row(x, Calls.code("c"), Calls.code("cc"), Calls.code("ccc"), Calls.code("cccc"),

@@ -80,7 +80,16 @@ public final class BackTest {
         x.wide(1);
         Calls.due("fourteen", x.shortest(2, Calls.code("aaaa")), 9);
         Calls.row(x, Calls.code("aaaaaaaaa"));
+        Calls.book(x, "aa>b");
+        Calls.due("fourteen, the longest", x.shortest(0, Calls.code("bbbbbbb")), -2);
+        x = Calls.with("aa>b");
+        x.wide(1);
+        Calls.due("fourteen, the longest", x.shortest(0, Calls.code("bbbbbbb")), 14);
+        Calls.row(x, Calls.code("aaaaaaaaaaaaaa"));
+        x = Calls.with("aaaaa>;hhhh>aaa");
         x.wide(8);
+        Calls.due("four of 4096", x.shortest(0, Calls.code("aaa")), 4);
+        Calls.row(x, Calls.code("hhhh"));
         Calls.due("five are too many", x.shortest(0, 0), -2);
         x.wide(5);
         Calls.due("five of 3125", x.shortest(0, 0), 5);

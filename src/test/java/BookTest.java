@@ -102,7 +102,12 @@ public final class BookTest {
         Calls.due("right of 1", x.rule(1, 1), Calls.code("ab"));
         Calls.due("left of 2", x.rule(2, 0), Calls.code("cc"));
         Calls.due("right of 2", x.rule(2, 1), 0);
-        Calls.due("the later weight", x.weigh(2, 1), 8);
+        Calls.due("the later weight", x.weigh(2, 5), 8);
+        Calls.due("one line", Calls.book(x, "c=1"), 1);
+        Calls.due("a weight of 1", x.weigh(2, 1), 1);
+        Calls.due("two lines", Calls.book(x, "a=7;h=6"), 2);
+        Calls.due("the first word", x.weigh(0, 1), 7);
+        Calls.due("the last word", x.weigh(7, 1), 6);
     }
 
     private static void bookOfLength() {

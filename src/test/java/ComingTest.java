@@ -69,6 +69,7 @@ public final class ComingTest {
         Calls.row(x, 2, 2, 2);
         Calls.due("below 0", x.done(-1), -1);
         Calls.due("below 0", x.done(Integer.MIN_VALUE), -1);
+        Calls.due("no words are done, too", Calls.with("ab>", "ab").done(0), 0);
         Calls.due("not so many", x.done(Integer.MAX_VALUE), -2);
     }
 
@@ -161,6 +162,9 @@ public final class ComingTest {
         Calls.due("no saying", x.meet(9, 1), -1);
         Calls.due("no saying", x.meet(1, -5), -1);
         Calls.row(x, Calls.code("c"));
+        x = Calls.with("ab>;a>;b>", "");
+        Calls.due("none at all, which comes first", x.meet(Calls.code("ab"), Calls.code("ab")), 1);
+        Calls.row(x, 0);
         x = Calls.with(Calls.STEPS, "hh");
         Calls.due("too many", x.meet(Calls.code("hhhh"), 1), -3);
         Calls.due("too many", x.meet(1, Calls.code("hhhh")), -3);

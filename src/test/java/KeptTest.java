@@ -77,6 +77,11 @@ public final class KeptTest {
         Calls.due("again", x.again(1), true);
         Calls.due("as it was kept", x.weigh(7, 1), 5);
         Calls.due("as it was kept", x.seed(1), 77);
+        Calls.due("a strike", x.strike(0) >= 0, true);
+        Calls.due("strikes", x.count(3), 1);
+        Calls.due("again", x.again(1), true);
+        Calls.due("no strike can be undone", x.count(3), 0);
+        Calls.due("undo", x.undo(), -1);
     }
 
     private static void count() {
