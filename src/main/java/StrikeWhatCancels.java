@@ -24,7 +24,6 @@ public final class StrikeWhatCancels {
     // What follows is made when it is first asked for: most objects never need it.
     private Net first = null;
     private Net second = null;
-    private Fan fan = null;
     private Overlaps laps = null;
     private Aside aside = null;
     private Still quiet = null;
@@ -202,12 +201,13 @@ public final class StrikeWhatCancels {
 
     public int can() {
         told.lay(rules.count);
-        Fan all = fan();
-        all.strikes(rules, desk.left, NONE);
-        for (int k = 0; k < all.size; k++) {
-            told.raise(Rules.ruleOf(all.howOf(k)));
+        int n = 0;
+        for (int i = 0; i < rules.count; i++) {
+            int byIt = rules.strikesBy(i, desk.left);
+            told.put(i, byIt);
+            n += byIt;
         }
-        return all.size;
+        return n;
     }
 
     public int judge(int n, int a, int b) {
@@ -235,10 +235,10 @@ public final class StrikeWhatCancels {
 
     public int net() {
         Net net = first();
-        if (!net.search(rules, fan(), desk.left, NONE)) {
+        if (!net.search(rules, desk.left, NONE)) {
             return TOO_MANY;
         }
-        net.gather(rules, fan(), false);
+        net.gather(rules, false);
         told.clear();
         told.add(net.ends());
         told.add(net.mostTillDone());
@@ -251,7 +251,7 @@ public final class StrikeWhatCancels {
             return NONE;
         }
         Net net = first();
-        if (!net.search(rules, fan(), desk.left, NONE)) {
+        if (!net.search(rules, desk.left, NONE)) {
             return TOO_MANY;
         }
         long s = net.doneNumber(k);
@@ -264,7 +264,7 @@ public final class StrikeWhatCancels {
             return NONE;
         }
         Net net = first();
-        if (!net.search(rules, fan(), desk.left, NONE)) {
+        if (!net.search(rules, desk.left, NONE)) {
             return TOO_MANY;
         }
         int at = net.find(goal);
@@ -287,14 +287,14 @@ public final class StrikeWhatCancels {
             return NONE;
         }
         Net net = first();
-        if (!net.search(rules, fan(), desk.left, NONE)) {
+        if (!net.search(rules, desk.left, NONE)) {
             return TOO_MANY;
         }
         int at = net.find(goal);
         if (at < 0) {
             return NOT;
         }
-        net.gather(rules, fan(), true);
+        net.gather(rules, true);
         told.clear();
         told.add(net.waysTillDone());
         return net.tallyOf(at);
@@ -335,7 +335,7 @@ public final class StrikeWhatCancels {
     private long bothLeadTo(long a, long b, int without) {
         Net one = first();
         Net other = second();
-        if (!one.search(rules, fan(), a, without) || !other.search(rules, fan(), b, without)) {
+        if (!one.search(rules, a, without) || !other.search(rules, b, without)) {
             return TOO_MANY;
         }
         return one.leastIn(other);
@@ -478,7 +478,7 @@ public final class StrikeWhatCancels {
             return 0;
         }
         Net net = first();
-        int at = net.spread(rules, fan(), a, b, most);
+        int at = net.spread(rules, a, b, most);
         if (at < 0) {
             return at;
         }
@@ -531,11 +531,11 @@ public final class StrikeWhatCancels {
             return no;
         }
         Finals all = finalsOf(clerk, n);
-        int most = all.mostStrikes(n);
+        long most = all.mostStrikes(n);
         told.clear();
         told.add(Saying.code(all.found));
         told.add(all.often);
-        return most;
+        return (int) most;
     }
 
     public long still(int n) {
@@ -657,13 +657,6 @@ public final class StrikeWhatCancels {
         return second;
     }
 
-    private Fan fan() {
-        if (fan == null) {
-            fan = new Fan();
-        }
-        return fan;
-    }
-
     private Overlaps laps() {
         if (laps == null) {
             laps = new Overlaps();
@@ -701,6 +694,10 @@ public final class StrikeWhatCancels {
 
         static long of(int n, long words) {
             return (long) n << 56 | words;
+        }
+
+        static long wordsOf(long s) {
+            return s & WORDS;
         }
 
         static int word(long s, int place) {
@@ -771,15 +768,17 @@ public final class StrikeWhatCancels {
     /** RULES in their order. A STRIKE is told as one number: RULE, place in the low four bits. */
     private static final class Rules {
         static final int ROOM = 2 * MOST_RULES;
-        // Far more STRIKES than minutes that are struck by hand need.
-        static final int PATIENCE = 1000000;
+        static final int MOST_WORDS = 5;
+        // So many STRIKES are made one by one: few minutes need more.
+        private static final int STEPS = 256;
         private final long[] left = new long[ROOM];
         private final long[] right = new long[ROOM];
         // Of each WORD the RULES (bits) of which LEFT begins with it.
         private final int[] heads = new int[KINDS + 1];
         int count = 0;
         int version = 0;
-        int strikes = 0;
+        long strikes = 0;
+        private Leaps leaps = null;
 
         static int strikeBy(int rule, int place) {
             return rule << 4 | place;
@@ -891,10 +890,10 @@ public final class StrikeWhatCancels {
         }
 
         private int nextByRules(long s) {
-            for (int i = 0; i < count; i++) {
-                int places = Saying.size(s) - Saying.size(leftOf(i));
+            for (int i = 0; i < count && i < left.length; i++) {
+                int places = Saying.size(s) - Saying.size(left[i]);
                 for (int place = 0; place <= places; place++) {
-                    if (fits(i, s, place)) {
+                    if (Saying.has(s, place, left[i])) {
                         return strikeBy(i, place);
                     }
                 }
@@ -905,24 +904,83 @@ public final class StrikeWhatCancels {
         /** What a CLERK 0 .. 2 leaves of a SAYING; 'strikes' tells how many STRIKES he made. */
         long leave(int clerk, long s) {
             long rest = s;
-            strikes = 0;
-            for (int k = 0; k < PATIENCE; k++) {
-                int next = next(clerk, rest);
-                if (next < 0) {
-                    break;
-                }
+            int next = next(clerk, rest);
+            int n = 0;
+            while (next >= 0 && n < STEPS) {
                 rest = struck(rest, next);
-                strikes++;
+                n++;
+                next = next(clerk, rest);
+            }
+            strikes = n;
+            if (next >= 0) {
+                rest = leaps().leave(this, clerk, rest);
+                strikes += leaps().strikes;
             }
             return rest;
         }
 
+        Leaps leaps() {
+            if (leaps == null) {
+                leaps = new Leaps();
+            }
+            return leaps;
+        }
+
+        /** How many WORDS a RULE leaves as they are at the beginning of its LEFT. */
+        int keeps(int i) {
+            long l = leftOf(i);
+            long r = rightOf(i);
+            int n = 0;
+            while (n < Saying.size(l) && n < Saying.size(r) && Saying.word(l, n) == Saying.word(r, n)) {
+                n++;
+            }
+            return n;
+        }
+
+        /** The place from which on WORDS ahead of place n matter to what a CLERK makes of those behind. */
+        int viewFrom(int clerk, long s, int n) {
+            int from = n;
+            int blocked = 0;
+            for (int place = n - 1; place >= 0 && place > n - MOST_WORDS; place--) {
+                for (int i = 0; i < count && i < left.length; i++) {
+                    int size = Saying.size(left[i]);
+                    int ahead = Math.min(n - place, size);
+                    boolean fits = Saying.has(s, place, Saying.part(left[i], 0, ahead));
+                    if (fits && ahead < size) {
+                        from = Math.max(place, blocked);
+                    } else if (fits && clerk == 1) {
+                        // CLERK 1 strikes here before he looks at a lesser place.
+                        blocked = Math.max(place, blocked);
+                    }
+                }
+            }
+            return from;
+        }
+
+        /** The first RULE that can strike at a place ahead of one, 'count' for none. */
+        int firstAhead(long s, int end) {
+            for (int i = 0; i < count && i < left.length; i++) {
+                for (int place = 0; place < end; place++) {
+                    if (Saying.has(s, place, left[i])) {
+                        return i;
+                    }
+                }
+            }
+            return count;
+        }
+
         int strikesIn(long s) {
             int n = 0;
+            for (int i = 0; i < count; i++) {
+                n += strikesBy(i, s);
+            }
+            return n;
+        }
+
+        int strikesBy(int i, long s) {
+            int n = 0;
             for (int place = 0; place < Saying.size(s); place++) {
-                for (int i = 0; i < count; i++) {
-                    n += fits(i, s, place) ? 1 : 0;
-                }
+                n += fits(i, s, place) ? 1 : 0;
             }
             return n;
         }
@@ -944,11 +1002,117 @@ public final class StrikeWhatCancels {
         }
     }
 
+    /**
+     * What a CLERK makes of the last WORDS of a SAYING as long as he leaves those ahead as they are.
+     * It is kept, so that he leaps where he would do it once more: RULES that count down need more
+     * STRIKES than could be made one by one.
+     */
+    private static final class Leaps {
+        private static final int ROOM = 16384;
+        private static final int NEAR = 4;
+        private static final int WORTH = 4;
+        // Each STRIKE makes a SAYING that has not been there, and there are less than 2^43 of them.
+        private static final long MOST = 1L << 44;
+        private final long[] asked = new long[ROOM];
+        private final long[] ending = new long[ROOM];
+        private final long[] strikesOf = new long[ROOM];
+        // By n 0 .. 'watched', as long as the first n WORDS stay the same: what is asked of those behind
+        // them, and how many STRIKES there were when it was.
+        private final long[] key = new long[Saying.MOST];
+        private final long[] since = new long[Saying.MOST];
+        private int watched = NONE;
+        private int version = NONE;
+        private long rest = 0;
+        long strikes = 0;
+
+        long leave(Rules rules, int clerk, long s) {
+            if (version != rules.version) {
+                begin(rules);
+            }
+            rest = s;
+            strikes = 0;
+            watched = NONE;
+            for (long k = 0; k < MOST; k++) {
+                int next = rules.next(clerk, rest);
+                int same = next < 0 ? NONE : Rules.placeOf(next) + rules.keeps(Rules.ruleOf(next));
+                remember(same);
+                if (next < 0) {
+                    break;
+                }
+                if (!leapt(rules, clerk, same)) {
+                    rest = rules.struck(rest, next);
+                    strikes++;
+                }
+            }
+            return rest;
+        }
+
+        private void begin(Rules rules) {
+            version = rules.version;
+            for (int k = 0; k < ROOM && k < asked.length; k++) {
+                asked[k] = 0;
+            }
+        }
+
+        /** Where more WORDS ahead were watched than stay the same now, what came of those behind is kept. */
+        private void remember(int same) {
+            for (int n = watched; n > same && n >= 0 && n < key.length; n--) {
+                int at = slotOf(key[n]);
+                if (strikes - since[n] >= WORTH && at >= 0 && at < ROOM) {
+                    asked[at] = key[n];
+                    ending[at] = Saying.part(rest, n, Saying.size(rest) - n);
+                    strikesOf[at] = strikes - since[n];
+                }
+            }
+            watched = Math.min(watched, same);
+        }
+
+        /** Makes all STRIKES that are known to come; else more of the WORDS ahead are watched from now on. */
+        private boolean leapt(Rules rules, int clerk, int same) {
+            int size = Saying.size(rest);
+            for (int n = watched + 1; n <= same && n < size && n >= 0 && n < key.length; n++) {
+                int from = rules.viewFrom(clerk, rest, n);
+                // To CLERK 2 a RULE that can strike further ahead matters, too.
+                long who = clerk == 2 ? 2 + rules.firstAhead(rest, from) : clerk;
+                long words = Saying.wordsOf(Saying.part(rest, from, size - from));
+                long asks = words | (long) (n - from) << 56 | who << 59;
+                int at = slotOf(asks);
+                if (at >= 0 && at < ROOM && asked[at] == asks) {
+                    rest = Saying.put(rest, n, size - n, ending[at]);
+                    strikes += strikesOf[at];
+                    return true;
+                }
+                key[n] = asks;
+                since[n] = strikes;
+                watched = n;
+            }
+            return false;
+        }
+
+        /** The slot in which it is asked, or else that one near it which spares the fewest STRIKES. */
+        private int slotOf(long asks) {
+            int from = (int) ((asks ^ asks >>> 31) * 0x9E3779B97F4A7C15L >>> 50);
+            int least = NONE;
+            long fewest = 0;
+            for (int k = 0; k < NEAR; k++) {
+                int at = from + k & ROOM - 1;
+                if (at < 0 || at >= asked.length || at >= strikesOf.length || asked[at] == asks) {
+                    return at;
+                }
+                long spares = asked[at] == 0 ? 0 : strikesOf[at];
+                if (least < 0 || spares < fewest) {
+                    least = at;
+                    fewest = spares;
+                }
+            }
+            return least;
+        }
+    }
+
     /** THE TEXT, and what its LINES tell: it is held back till all of them stand. */
     private static final class Reader {
         private static final int ROOM = 80;
         private static final int MOST_SIGNS = 76;
-        private static final int MOST_WORDS = 5;
         private static final int START = 0;
         private static final int LEFT = 1;
         private static final int RIGHT = 2;
@@ -1055,7 +1219,7 @@ public final class StrikeWhatCancels {
         }
 
         private boolean takesInLeft(int sign, int word) {
-            if (word > 0 && Saying.size(left) < MOST_WORDS) {
+            if (word > 0 && Saying.size(left) < Rules.MOST_WORDS) {
                 left = Saying.put(left, Saying.size(left), 0, Saying.of(1, word));
                 return true;
             }
@@ -1071,7 +1235,7 @@ public final class StrikeWhatCancels {
         }
 
         private boolean takesInRight(int word) {
-            if (Saying.size(right) >= MOST_WORDS) {
+            if (Saying.size(right) >= Rules.MOST_WORDS) {
                 return false;
             }
             right = Saying.put(right, Saying.size(right), 0, Saying.of(1, word));
@@ -1199,75 +1363,11 @@ public final class StrikeWhatCancels {
         }
     }
 
-    /** All SAYINGS that one step makes of a SAYING. */
-    private static final class Fan {
-        private static final int ROOM = 256;
-        private final long[] to = new long[ROOM];
-        private final int[] how = new int[ROOM];
-        int size = 0;
-
-        long toOf(int k) {
-            return k >= 0 && k < size && k < to.length ? to[k] : 0;
-        }
-
-        int howOf(int k) {
-            return k >= 0 && k < size && k < how.length ? how[k] : 0;
-        }
-
-        /** By each STRIKE of all RULES but one, by RULES, then by places. */
-        void strikes(Rules rules, long s, int without) {
-            size = 0;
-            for (int i = 0; i < rules.count; i++) {
-                int places = i == without ? NONE : Saying.size(s) - Saying.size(rules.leftOf(i));
-                for (int place = 0; place <= places; place++) {
-                    if (rules.fits(i, s, place) && size < to.length && size < how.length) {
-                        how[size] = Rules.strikeBy(i, place);
-                        to[size] = rules.struck(s, how[size]);
-                        size++;
-                    }
-                }
-            }
-        }
-
-        /** By STRIKES and STRIKES turned round, unlike ones of at most some WORDS, the one AHEAD first. */
-        void around(Rules rules, long s, int most) {
-            size = 0;
-            for (int i = 0; i < rules.count; i++) {
-                exchanges(s, rules.leftOf(i), rules.rightOf(i), most);
-                exchanges(s, rules.rightOf(i), rules.leftOf(i), most);
-            }
-        }
-
-        private void exchanges(long s, long from, long into, int most) {
-            int places = Saying.size(s) - Saying.size(from);
-            boolean room = places + Saying.size(into) <= most;
-            for (int place = 0; room && place <= places; place++) {
-                if (Saying.has(s, place, from)) {
-                    insert(Saying.put(s, place, Saying.size(from), into));
-                }
-            }
-        }
-
-        private void insert(long s) {
-            int at = size;
-            while (at > 0 && at <= to.length && to[at - 1] >= s) {
-                at--;
-            }
-            if (size >= to.length || at < size && to[at] == s) {
-                return;
-            }
-            for (int k = size; k > at; k--) {
-                to[k] = to[k - 1];
-            }
-            to[at] = s;
-            size++;
-        }
-    }
-
     /** A search: SAYINGS, the nearest first, each with the least way to it. */
     private static final class Net {
         private static final int ROOM = 3000;
         private static final int SLOTS = 8192;
+        private static final int MOST_STEPS = 256;
         private final long[] said = new long[ROOM];
         private final int[] ahead = new int[ROOM];
         private final int[] how = new int[ROOM];
@@ -1278,6 +1378,10 @@ public final class StrikeWhatCancels {
         // Number of a SAYING above 'base'; what is below is of an earlier search and counts as free.
         private final int[] slots = new int[SLOTS];
         private int base = 1;
+        // What one step makes of the SAYING looked at, and by which STRIKE.
+        private final long[] to = new long[MOST_STEPS];
+        private final int[] by = new int[MOST_STEPS];
+        private int steps = 0;
         private boolean over = false;
         private boolean isRanked = false;
         private int version = NONE;
@@ -1339,7 +1443,7 @@ public final class StrikeWhatCancels {
         }
 
         /** All that a SAYING LEADS to by all RULES but one; false if that is too much. */
-        boolean search(Rules rules, Fan fan, long s, int leftOut) {
+        boolean search(Rules rules, long s, int leftOut) {
             if (version == rules.version && start == s && without == leftOut) {
                 return !over;
             }
@@ -1347,17 +1451,17 @@ public final class StrikeWhatCancels {
             version = rules.version;
             without = leftOut;
             for (int at = 0; at < size && at < ROOM && !over; at++) {
-                fan.strikes(rules, said[at], leftOut);
-                finished[at] = fan.size == 0;
-                for (int k = 0; k < fan.size; k++) {
-                    add(fan.toOf(k), at, fan.howOf(k));
+                step(rules, said[at]);
+                finished[at] = steps == 0;
+                for (int k = 0; k < steps; k++) {
+                    add(toOf(k), at, byOf(k));
                 }
             }
             return !over;
         }
 
         /** The SAYING one step ahead of a goal, by STRIKES either way round; NOT, TOO_MANY. */
-        int spread(Rules rules, Fan fan, long s, long goal, int most) {
+        int spread(Rules rules, long s, long goal, int most) {
             begin(s);
             version = NONE;
             int end = size;
@@ -1367,22 +1471,79 @@ public final class StrikeWhatCancels {
                     return TOO_MANY;
                 }
                 end = at == end ? size : end;
-                fan.around(rules, said[at], most);
-                if (catches(fan, at, goal)) {
+                stepAround(rules, said[at], most);
+                if (catches(at, goal)) {
                     return at;
                 }
             }
             return over ? TOO_MANY : NOT;
         }
 
-        private boolean catches(Fan fan, int at, long goal) {
-            for (int k = 0; k < fan.size; k++) {
-                if (fan.toOf(k) == goal) {
+        private boolean catches(int at, long goal) {
+            for (int k = 0; k < steps; k++) {
+                if (toOf(k) == goal) {
                     return true;
                 }
-                add(fan.toOf(k), at, 0);
+                add(toOf(k), at, 0);
             }
             return false;
+        }
+
+        /** What each STRIKE makes of a SAYING, by RULES (but the one left out), then by places. */
+        private void step(Rules rules, long s) {
+            steps = 0;
+            for (int i = 0; i < rules.count; i++) {
+                int places = i == without ? NONE : Saying.size(s) - Saying.size(rules.leftOf(i));
+                for (int place = 0; place <= places; place++) {
+                    if (rules.fits(i, s, place) && steps < to.length && steps < by.length) {
+                        by[steps] = Rules.strikeBy(i, place);
+                        to[steps] = rules.struck(s, by[steps]);
+                        steps++;
+                    }
+                }
+            }
+        }
+
+        /** By STRIKES and STRIKES turned round, unlike ones of at most some WORDS, the one AHEAD first. */
+        private void stepAround(Rules rules, long s, int most) {
+            steps = 0;
+            for (int i = 0; i < rules.count; i++) {
+                exchange(s, rules.leftOf(i), rules.rightOf(i), most);
+                exchange(s, rules.rightOf(i), rules.leftOf(i), most);
+            }
+        }
+
+        private void exchange(long s, long from, long into, int most) {
+            int places = Saying.size(s) - Saying.size(from);
+            boolean room = places + Saying.size(into) <= most;
+            for (int place = 0; room && place <= places; place++) {
+                if (Saying.has(s, place, from)) {
+                    insert(Saying.put(s, place, Saying.size(from), into));
+                }
+            }
+        }
+
+        private void insert(long s) {
+            int at = steps;
+            while (at > 0 && at <= to.length && to[at - 1] >= s) {
+                at--;
+            }
+            if (steps >= to.length || at < steps && to[at] == s) {
+                return;
+            }
+            for (int k = steps; k > at; k--) {
+                to[k] = to[k - 1];
+            }
+            to[at] = s;
+            steps++;
+        }
+
+        private long toOf(int k) {
+            return k >= 0 && k < steps && k < to.length ? to[k] : 0;
+        }
+
+        private int byOf(int k) {
+            return k >= 0 && k < steps && k < by.length ? by[k] : 0;
         }
 
         private void rank() {
@@ -1394,23 +1555,23 @@ public final class StrikeWhatCancels {
         }
 
         /** Into 'tally' of each SAYING: in how many ways it is come to, or else the most STRIKES to it. */
-        void gather(Rules rules, Fan fan, boolean ways) {
+        void gather(Rules rules, boolean ways) {
             rank();
             for (int k = 0; k < size && k < ROOM; k++) {
                 tally[k] = 0;
             }
             tally[0] = ways ? 1 : 0;
             for (int k = Math.min(size, ROOM) - 1; k >= 0; k--) {
-                fan.strikes(rules, ranked[k], without);
-                pass(fan, tallyOf(find(ranked[k])), ways);
+                step(rules, ranked[k]);
+                pass(tallyOf(find(ranked[k])), ways);
             }
         }
 
-        private void pass(Fan fan, long from, boolean ways) {
-            for (int k = 0; k < fan.size; k++) {
-                int to = find(fan.toOf(k));
-                if (to >= 0 && to < tally.length) {
-                    tally[to] = ways ? tally[to] + from : Math.max(tally[to], from + 1);
+        private void pass(long from, boolean ways) {
+            for (int k = 0; k < steps; k++) {
+                int at = find(toOf(k));
+                if (at >= 0 && at < tally.length) {
+                    tally[at] = ways ? tally[at] + from : Math.max(tally[at], from + 1);
                 }
             }
         }
@@ -1617,7 +1778,7 @@ public final class StrikeWhatCancels {
         }
 
         private void tell(long left, long right, int n) {
-            if (Saying.size(left) > 5) {
+            if (Saying.size(left) > Rules.MOST_WORDS) {
                 stuck = true;
             } else if (added < n) {
                 all.add(left, right);
@@ -1731,16 +1892,16 @@ public final class StrikeWhatCancels {
     private static final class Finals {
         static final int MANY = 4096;
         private static final int ROOM = 2 * MANY;
-        private static final int PATIENCE = 20000000;
+        // So many STRIKES are made one by one, to find a SAYING that is settled.
+        private static final int STEPS = 64;
         private final long[] left = new long[ROOM];
-        private final int[] strikes = new int[ROOM];
+        private final long[] strikes = new long[ROOM];
         private final int[] begins = new int[Saying.MOST + 1];
         private final long[] sorted = new long[MANY];
         private final int clerk;
         private int kinds = 0;
         private int version = NONE;
         private int longest = NONE;
-        private int patience = 0;
         long found = 0;
         int often = 0;
 
@@ -1763,7 +1924,6 @@ public final class StrikeWhatCancels {
                 kinds = wide;
                 longest = NONE;
             }
-            patience = PATIENCE;
             for (int m = longest + 1; m <= n && m >= 0 && m < begins.length; m++) {
                 begins[m] = m == 0 ? 0 : beginOf(m - 1) + many(kinds, m - 1);
                 int many = many(kinds, m);
@@ -1806,19 +1966,23 @@ public final class StrikeWhatCancels {
         /** STRIKES a SAYING till it is one that is settled: all within WIDE that are AHEAD of it are. */
         private void settle(Rules rules, long s, int at) {
             long rest = s;
-            int n = 0;
+            long n = 0;
             int next = rules.next(clerk, rest);
-            while (next >= 0 && patience > 0) {
-                patience--;
+            while (next >= 0 && n < STEPS) {
                 rest = rules.struck(rest, next);
                 n++;
                 int known = indexOf(rest);
                 if (known >= 0 && known < at && known < ROOM) {
                     n += strikes[known];
                     rest = left[known];
-                    break;
+                    next = NONE;
+                } else {
+                    next = rules.next(clerk, rest);
                 }
-                next = rules.next(clerk, rest);
+            }
+            if (next >= 0) {
+                rest = rules.leaps().leave(rules, clerk, rest);
+                n += rules.leaps().strikes;
             }
             if (at >= 0 && at < ROOM) {
                 left[at] = rest;
@@ -1831,7 +1995,7 @@ public final class StrikeWhatCancels {
             return at >= 0 && at < left.length ? left[at] : 0;
         }
 
-        private int strikesOf(int n, int k) {
+        private long strikesOf(int n, int k) {
             int at = beginOf(n) + k;
             return at >= 0 && at < strikes.length ? strikes[at] : 0;
         }
@@ -1849,11 +2013,11 @@ public final class StrikeWhatCancels {
         }
 
         /** The most STRIKES; the first SAYING with so many is found, and how often there is none. */
-        int mostStrikes(int n) {
-            int most = NONE;
+        long mostStrikes(int n) {
+            long most = NONE;
             often = 0;
             for (int k = 0; k < many(kinds, n); k++) {
-                int has = strikesOf(n, k);
+                long has = strikesOf(n, k);
                 often += has == 0 ? 1 : 0;
                 if (has > most) {
                     most = has;
