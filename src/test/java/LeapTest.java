@@ -18,6 +18,22 @@ public final class LeapTest {
         "ba>ad;ca>bd;da>cd;b>a;c>b;d>c",
     };
 
+    // RULES and words on which clerks who leapt a little wrongly were found out.
+    private static final String[] TOUCHY = {
+        "ba>ac;ccba>cabb;bcbbb>bcbba;ccc>cca;cacbb>cabcc;cb>ca;cc>cb;bcb>bbb;ca>bc;bccc>bbaa;bc>ba;babb>baac babccbccbcbccb cbabbbccbbacc ccbcacccacbcbb",
+        "bcba>bbca;bbbb>bbba;bacb>abca;baa>abc;cbcb>caca;c>b;abbb>aacc;bba>abb;aa>c;b>a;bba>abc;bac>baa bcabcaccbaccbb bcabacbbccbaaa aabcacbcccbbbb",
+        "aabb>cba;ca>bc;bbccc>bbcbc;ccbba>cacca;cbab>cacc;bbab>abaa;bbccc>abccb;bcba>bbcc;aca>abb;bb>ac;cbc>cbb;b>a aacaaabcbacac abbbcbccccbbcb bbcbcaccbbaaba",
+        "aaa>cb;cbba>caab;cb>bc;c>b;cba>bab;ac>ab;caacb>caaca;cbcb>cacb;acbab>aabab;ba>ac;bbb>bba;cba>bac bcccacbcbabbab bcccbcbcbcabca cabbcaccbbaabb",
+        "cb>ca;bcb>bca;ca>bc;c>a;cbcbb>cbcba;baccc>bacac;baabc>acaab;cc>cb;aaaaa>bbbb;bbbb>acab;ccc>bbc;cbcc>cbca bcaaabcbaabac cccacccacccccb ccccabbacbbbbb",
+        "cc>af;f>e;ea>de;dbd>cec;b>a;bc>bb;fbd>bee;e>b;d>c;bfd>bea;df>da;ac>ab ddcfeaedbfbecd bafefefefadbbf deadeccbccecce",
+        "d>c;ba>ad;ca>bd;ca>bc;cc>ca;d>c;dc>da;cd>ca;c>a;d>c;da>cd baadcbbcabbacd cabdddbaabbba abbddbacbaddbd",
+        "cbbbb>bacbc;bba>bac;cccba>cccab;c>b;bb>ac;baaac>baaab;c>a;baa>abc;baca>abbb;babab>babaa;c>b;cb>aa ccabbbacbbbaba bcccbccbaccacc cabbccbcbccbab",
+        "baaa>abab;baaaa>aabbb;abbab>abaab;bb>ba;abbba>abbab;baaaa>ababb;abb>aba;aabab>aabaa;bbb>abb;baa>abb;bb>ba;bbba>bbaa bbbababbaabab abbbaabaabaaba babbbabababaaa",
+        "ac>e;cb>be;ee>ca;eee>eea;ebd>cad;d>c;ebb>dbe;e>b;decb>bdbb;badd>aacc;deee>dcac;eeee>bbeb eebceedbccedda cabedcddecbcd dadbccdeddaaab",
+        "b>a;da>cd;dc>da;dd>da;ca>bc;cc>cb;d>b;d>c;ba>ad;dc>db;bd>bc;bb>ba ddaddcdabbcbdb addacdaaaddcbb ddccaddadadbda",
+        "bbaaa>babaa;bbbab>aabaa;bbbbb>bbaba;baba>baab;bb>ba;baaa>abbb;ba>ab;baaab>aabba;b>a;bbab>aaab;bba>baa;babb>baba bbaaabababa abbbababbabbba abbaabaaabbaab",
+    };
+
     private final Random random;
     private final List<String[]> rules = new ArrayList<>();
     private String left = "";
@@ -32,6 +48,10 @@ public final class LeapTest {
         lastFirst();
         aside();
         back();
+        for (String t : TOUCHY) {
+            Calls.of("22, " + t);
+            new LeapTest(0).touchy(t.split(" "));
+        }
         int runs = args.length > 0 ? Integer.parseInt(args[0]) : 400;
         long seed = args.length > 1 ? Long.parseLong(args[1]) : 1;
         for (int k = 0; k < runs; k++) {
@@ -164,16 +184,36 @@ public final class LeapTest {
         Calls.due("come", x.come(1, 12, Calls.code("aaaaaaaaaaaa")), 4096);
     }
 
+    /** What is kept is of RULES as they are: two of them change their places then. */
+    private void touchy(String[] rulesAndWords) {
+        take(rulesAndWords[0]);
+        StrikeWhatCancels x = booked();
+        for (int round = 0; round < 3; round++) {
+            for (int k = 1; k < rulesAndWords.length; k++) {
+                compareClerks(x, rulesAndWords[k]);
+            }
+            int last = rules.size() - 1;
+            x.swap(0, last);
+            String[] first = rules.set(0, rules.get(last));
+            rules.set(last, first);
+        }
+    }
+
+    private StrikeWhatCancels booked() {
+        StrikeWhatCancels x = new StrikeWhatCancels();
+        for (String[] r : rules) {
+            Calls.due("book of " + r[0] + ">" + r[1], Calls.book(x, r[0] + ">" + r[1]), 1);
+        }
+        return x;
+    }
+
     /** RULES like a counter's, some of them put for others; what is left is compared. */
     private void drawn() {
         take(COUNTERS[random.nextInt(COUNTERS.length)]);
         for (int k = random.nextInt(5); k > 0; k--) {
             change();
         }
-        StrikeWhatCancels x = new StrikeWhatCancels();
-        for (String[] r : rules) {
-            Calls.due("book of " + r[0] + ">" + r[1], Calls.book(x, r[0] + ">" + r[1]), 1);
-        }
+        StrikeWhatCancels x = booked();
         for (int k = 0; k < 3; k++) {
             compareClerks(x, words(4 + random.nextInt(11), 8));
         }
