@@ -1793,8 +1793,19 @@ public final class StrikeWhatCancels {
         private final int[][] low = new int[KINDS + 1][KINDS];
         private final int[][] high = new int[KINDS + 1][KINDS];
         private int count = 0;
+        private int version = NONE;
+        private boolean solved = false;
 
         boolean solve(Rules rules) {
+            if (version != rules.version) {
+                version = rules.version;
+                begin(rules);
+                solved = narrow(low[0], high[0]) && choose(0);
+            }
+            return solved;
+        }
+
+        private void begin(Rules rules) {
             count = Math.min(rules.count, gain.length);
             for (int i = 0; i < count; i++) {
                 for (int w = 0; w < KINDS; w++) {
@@ -1805,7 +1816,6 @@ public final class StrikeWhatCancels {
                 low[0][w] = 1;
                 high[0][w] = HEAVIEST;
             }
-            return narrow(low[0], high[0]) && choose(0);
         }
 
         int weightOf(int w) {
