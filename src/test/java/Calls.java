@@ -26,6 +26,13 @@ final class Calls {
         due(what, got ? 1 : 0, want ? 1 : 0);
     }
 
+    static void due(String what, String got, String want) {
+        if (!got.equals(want)) {
+            wrong++;
+            System.out.println(promise + ": " + what + " is " + got + ", due is " + want);
+        }
+    }
+
     /** THE ROW has these numbers and no others. */
     static void row(StrikeWhatCancels x, long... want) {
         long[] got = new long[x.count(5)];
