@@ -79,6 +79,20 @@ public final class AsideEdgeTest {
         Edge.asks("complete(9)", made(PAIRS), x -> x.complete(9), 9, NINE);
     }
 
+    @Says("RULES are added aside, at most n (to twelve RULES, which is all that can be told)")
+    static void promise29TwelveToTwelve() {
+        Supplier<StrikeWhatCancels> made = made(PAIRS + ";gh>;hg>g;gh>;gh>;gh>;gh>");
+        Calls.due("RULES", made.get().count(0), 12);
+        Edge.asks("complete(12)", made, x -> x.complete(12), 12, TWELVE);
+        Edge.asks("same", made, x -> x.same(code("hgfedcba"), 7), 1, 0, 0);
+    }
+
+    @Says("what CLERK 0 leaves of both SAYINGS is unlike")
+    static void promise29ByClerk0() {
+        // ddddd comes to aaadd, from the left badd, and to ddaaa, from the left ddba.
+        Edge.asks("complete(1)", made("ddd>aaa;aa>b"), x -> x.complete(1), -2, added("ddba>badd"));
+    }
+
     @Says("-2: not done with n (thirteen would be needed)")
     static void promise29Thirteen() {
         Edge.asks("complete(12)", made(PAIRS + ";ghgg>"), x -> x.complete(12), -2, NOT_ENOUGH);
@@ -163,6 +177,14 @@ public final class AsideEdgeTest {
         Edge.asks("six WORDS", made("aabaa>bb"), x -> x.same(code("aabaab"), code("bbb")), 1, code("bbb"), code("bbb"));
         // By hg>gh, the last of twelve.
         Edge.asks("thirteen", made(PAIRS + ";ghgg>"), x -> x.same(code("hg"), code("gh")), 1, code("gh"), code("gh"));
+    }
+
+    @Says("come to one by RULES and those added (CLERK 0)")
+    static void promise30ByClerk0() {
+        // From the right it would come to aabbb.
+        long fromTheLeft = code("bbbaa");
+        Edge.asks("same", made("aabaa>bb"), x -> x.same(code("aabaabaa"), code("aabaabaa")), 1, fromTheLeft, fromTheLeft);
+        Edge.asks("same", made("aabaa>bb"), x -> x.same(code("aabaabaa"), code("aabbb")), -2, fromTheLeft, code("aabbb"));
     }
 
     @Says("by RULES and those added by complete() of 12 (CLERK 0) (whatever was asked before)")
@@ -297,8 +319,18 @@ public final class AsideEdgeTest {
         x = made("a>;b>;c>").get();
         Calls.due("seven words", x.between(0, code("ccccccc"), 8), 7);
         Edge.stays("eight words", made("a>;b>;c>"), y -> y.between(0, code("cccccccc"), 8), -3);
+        Edge.stays("eight words, next to the first of seven", made("a>;b>;c>"), y -> y.between(0, code("aaaaaaaa"), 8), -3);
         Edge.stays("a word that is none of them", made("a>;b>;c>"), y -> y.between(0, 4, 7), -3);
         Edge.stays("1093 are not so many", made("a>;b>;c>"), y -> y.between(0, 4, 6), -2);
+    }
+
+    @Says("-3: without it being among them (the 3001st alone, next to the 3000th)")
+    static void promise31TheLastOfAll() {
+        // eeeeh is the farthest of 3000, and alone can come to none.
+        Edge.stays("one that is not there", made(KINDS + ";eeeeh>"), x -> x.between(code("aaaaf"), 1, 5), -3);
+        StrikeWhatCancels x = made(KINDS + ";eeeeh>").get();
+        Calls.due("the last of all", x.between(code("aaaaf"), 0, 5), 4 * 4 + 2 + 1);
+        Calls.due("numbers of the ROW", x.count(5), 8);
     }
 
     @Says("NONE: others. (no SAYING has one)")

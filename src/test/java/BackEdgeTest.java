@@ -284,6 +284,15 @@ public final class BackEdgeTest {
     static void promise35LongLefts() {
         Edge.stays("four", made("abcde>", 8), x -> x.still(4), 4096);
         Edge.stays("five", made("abcde>", 8), x -> x.still(5), 32767);
+        // aaba, aabb, aaab, baab are not.
+        Edge.stays("a LEFT behind its own beginning", made("aab>", 2), x -> x.still(4), 16 - 4);
+        // Of all 32768 the LEFTS themselves are not.
+        Edge.stays("twelve LEFTS of five", () -> {
+            StrikeWhatCancels x = Calls.with("abaaa>;bcaaa>;cdaaa>;deaaa>;efaaa>;fgaaa>", "a");
+            Calls.book(x, "ghaaa>;haaaa>;acaaa>;bdaaa>;ceaaa>;dfaaa>");
+            x.wide(8);
+            return x;
+        }, x -> x.still(5), 32768 - 12);
         Edge.stays("twelve LEFTS", made("h>;g>;f>;e>;d>;ca>;cb>;cc>;ba>;bb>;bc>;aa>", 8), x -> x.still(2), 2);
     }
 
@@ -357,6 +366,19 @@ public final class BackEdgeTest {
         Edge.asks("no WORDS", made("aa>b", 2), x -> x.quarrels(0), 0);
         Edge.asks("no RULES", none(8), x -> x.quarrels(4), 0);
         Edge.asks("fourteen", made("aa>", 1), x -> x.quarrels(14), 0);
+    }
+
+    @Says("SAYINGS of n WORDS (asked behind those of more)")
+    static void promise37BehindMore() {
+        StrikeWhatCancels x = made("aa>b", 1).get();
+        Calls.due("three", x.quarrels(3), 1);
+        Calls.due("two", x.quarrels(2), 0);
+        Calls.row(x);
+        Calls.due("come, two", x.come(0, 2, code("ba")), 0);
+        Calls.due("longest, two", x.longest(0, 2), 1);
+        Calls.row(x, code("aa"), 0);
+        Calls.due("sorts, two", x.sorts(0, 2), 1);
+        Calls.row(x, 2, 1);
     }
 
     @Says("-3 .. as come().")

@@ -282,12 +282,28 @@ public final class BookEdgeTest {
     @Says("WEIGHTS of WORDS 1 .. 9 (the least, the greatest)")
     static void promise04Weights() {
         StrikeWhatCancels x = none();
+        x.weigh(1, 5);
         Calls.due("book", Calls.book(x, "a=9;h=9;b=1"), 3);
         Calls.due("a", x.weigh(0, 1), 9);
         Calls.due("b", x.weigh(1, 1), 1);
-        Calls.due("h", x.weigh(7, 1), 9);
+        Calls.due("h", x.weigh(7, 6), 9);
         Calls.due("book", Calls.book(x, "h=9;h=1"), 2);
         Calls.due("the later LINE", x.weigh(7, 1), 1);
+    }
+
+    @Says("THE TEXT tells .. WEIGHTS (what earlier texts told does not come again)")
+    static void promise04EarlierTexts() {
+        StrikeWhatCancels x = none();
+        Calls.due("book", Calls.book(x, "a=5;h=6;ab>"), 3);
+        x.weigh(0, 2);
+        x.weigh(7, 3);
+        Calls.due("book", Calls.book(x, "b=4;cd>"), 2);
+        Calls.due("RULES", Edge.rulesOf(x), "11>0 31>0");
+        Calls.due("WEIGHTS", Edge.weightsOf(x), "24111113");
+        Calls.due("a text that can't be", Calls.book(x, "a=7;ef>;x"), -9);
+        Calls.due("book", Calls.book(x, "c=8"), 1);
+        Calls.due("RULES", x.count(0), 2);
+        Calls.due("WEIGHTS", Edge.weightsOf(x), "11811111");
     }
 
     @Says("LINES with ; between")

@@ -237,6 +237,12 @@ public final class ComingEdgeTest {
         Calls.due("ways of 3000", x.ways(Calls.code("fdeee")), 1);
         Calls.due("numbers of the ROW", x.count(5), 1);
         Calls.due("ways of 3000", x.ways(Calls.code("fdedd")), 2);
+        // 20 STRIKES, of which 5, 3, 4, 4, 4 have to stay in their order, are in so many orders.
+        Calls.due("net", x.net(), 3000);
+        Calls.due("ways of 3000", x.ways(Calls.code("aaaaa")), 244432188000L);
+        Calls.row(x, 244432188000L);
+        Calls.due("net behind ways", x.net(), 3000);
+        Calls.row(x, 1, 20, 20);
         Edge.stays("ways of 3000", ComingEdgeTest::full, y -> y.ways(0), -2);
         Edge.stays("ways of 3001", ComingEdgeTest::overfull, y -> y.ways(0), -3);
         Edge.stays("ways of 3001", ComingEdgeTest::overfull, y -> y.ways(y.minutes()), -3);

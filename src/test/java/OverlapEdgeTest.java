@@ -192,6 +192,16 @@ public final class OverlapEdgeTest {
         Edge.stays("idle, twice told", made("b>a;b>a"), x -> x.idle(), 3);
     }
 
+    @Says("by the other RULES alone (though all that b leads to by all RULES was asked just before)")
+    static void promise26NotByWhatWasAsked() {
+        StrikeWhatCancels x = Calls.with("b>a", "b");
+        Calls.due("net", x.net(), 2);
+        Calls.due("idle", x.idle(), 0);
+        Calls.due("net", x.net(), 2);
+        Calls.due("meet", x.meet(2, 1), 1);
+        Calls.due("idle", x.idle(), 0);
+    }
+
     @Says("-3. (3000, 3001)")
     static void promise26TooMany() {
         // Without the last RULE haaaa stays as it is, and fdeee leads to 3000, or to none, too.
@@ -250,6 +260,8 @@ public final class OverlapEdgeTest {
     static void promise28None() {
         Edge.asks("weights", made("ba>ab"), x -> x.weights(), 0);
         Edge.asks("weights", made("c>b;ba>ac"), x -> x.weights(), 0);
+        // b and c are above a and d, a and d above b and c: no WEIGHT of one word shows it.
+        Edge.asks("weights", made("bc>ad;da>cb"), x -> x.weights(), 0);
     }
 
     @Says("WEIGHTS with which each RULE makes less (without RULES the least row of all)")
