@@ -128,6 +128,15 @@ public final class OverlapEdgeTest {
         Edge.asks("one RULE", made("ab>"), x -> x.overlaps(), 0, 0, -1);
     }
 
+    @Says("how many do not MEET (by all RULES: the first, the last)")
+    static void promise24ByAllRules() {
+        // gh comes to a, or to b, which comes to a by the first RULE alone.
+        Edge.asks("overlaps", made("b>a;gh>a;gh>b"), x -> x.overlaps(), 2, 0, -1);
+        Edge.asks("overlap", made("b>a;gh>a;gh>b"), x -> x.overlap(0), 1, 1, 2, 10, code("gh"), 1, 2);
+        // ababa comes to bba and abb, and both to a by the last RULE.
+        Edge.asks("overlaps", made("aba>b;bb>"), x -> x.overlaps(), 2, 0, -1);
+    }
+
     @Says("-3, if one search does so. (3000, 3001)")
     static void promise24TooMany() {
         Edge.asks("3000", full(), x -> x.overlaps(), 2, 2, 0);
