@@ -1367,6 +1367,8 @@ public final class StrikeWhatCancels {
     private static final class Net {
         private static final int ROOM = 3000;
         private static final int SLOTS = 8192;
+        // Behind it the numbers in 'slots' would come round.
+        private static final int LAST_BASE = 0x7FFFFFFF - 2 * ROOM;
         private static final int MOST_STEPS = 256;
         private final long[] said = new long[ROOM];
         private final int[] ahead = new int[ROOM];
@@ -1391,7 +1393,7 @@ public final class StrikeWhatCancels {
 
         private void begin(long s) {
             base += ROOM;
-            if (base > Integer.MAX_VALUE - 2 * ROOM) {
+            if (base > LAST_BASE) {
                 for (int k = 0; k < SLOTS && k < slots.length; k++) {
                     slots[k] = 0;
                 }

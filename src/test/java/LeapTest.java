@@ -85,7 +85,7 @@ public final class LeapTest {
         Calls.due("the same again", Calls.with(COUNTERS[4] + ";a>", "ddddddddddddd").clerks(), 1);
     }
 
-    /** Nothing but one STRIKE can be made at any time, so all CLERKS make the same. */
+    /** However it is struck, no STRIKE can be spared, so all CLERKS make as many. */
     private static void marked() {
         Calls.of("22, a mark behind");
         StrikeWhatCancels x = Calls.with(COUNTERS[1]);
